@@ -58,10 +58,8 @@ public final class TwinSpan {
     private final Stepper stepper;
     private final Graph graph = new Graph();
     private final Graph walled = new Graph();
-    /** The PAIR that the graph, the costs and the game were made for, NONE behind each change. */
+    /** The PAIR that the graph was made for, NONE behind each change. */
     private int graphPair = NONE;
-    private boolean cheapReady;
-    private boolean gameReady;
     private final Cheap cheap = new Cheap();
     private final Errand errand = new Errand();
     private final Game game = new Game();
@@ -132,7 +130,7 @@ public final class TwinSpan {
             return NO_SUCH;
         }
         if (what == 0) {
-            return board.isWall(c) ? WALL_HEIGHT : board.plan.heightOf(c);
+            return board.isWall(c) ? WALL_HEIGHT : board.plan.heights[c];
         }
         if (what == 1) {
             return board.twinsAt(c);
@@ -332,8 +330,8 @@ public final class TwinSpan {
 
     private void changed() {
         graphPair = NONE;
-        cheapReady = false;
-        gameReady = false;
+        cheap.isReady = false;
+        game.isReady = false;
     }
 
     // ---- coming
@@ -361,7 +359,9 @@ public final class TwinSpan {
         if (!isGoal(p, one, two)) {
             return NO_SUCH;
         }
-        return cheapOf(p).costTo(graph, one, two);
+        Graph ways = graphOf(p);
+        prepareCheap(p);
+        return cheap.costTo(ways, one, two);
     }
 
     public int cheapWay(int p, int one, int two, int i) {
@@ -371,7 +371,9 @@ public final class TwinSpan {
         if (i < 0) {
             return BAD_NUMBER;
         }
-        return told(cheapOf(p).leadTo(graph, one, two, i));
+        Graph ways = graphOf(p);
+        prepareCheap(p);
+        return told(cheap.leadTo(ways, one, two, i));
     }
 
     public long rows(int p, int one, int two, int n) {
@@ -411,11 +413,8 @@ public final class TwinSpan {
             }
             stepper.free = free & ~(1L << c);
             walled.build(stepper, here);
-            int other = walled.find(one, two);
-            if (other == NONE) {
+            if (walled.find(one, two) == NONE) {
                 need |= 1L << c;
-            } else {
-                open &= walled.trailTo(other);
             }
         }
         return need;
@@ -462,23 +461,12 @@ public final class TwinSpan {
         return graph;
     }
 
-    private Cheap cheapOf(int p) {
-        Graph ways = graphOf(p);
-        if (!cheapReady) {
+    /** Behind graphOf(), for the same PAIR. */
+    private void prepareCheap(int p) {
+        if (!cheap.isReady) {
             stepper.aim(board, p);
-            cheap.explore(ways, stepper);
-            cheapReady = true;
+            cheap.explore(graph, stepper);
         }
-        return cheap;
-    }
-
-    private Game gameOf(int p) {
-        Graph ways = graphOf(p);
-        if (!gameReady) {
-            game.linkAll(ways);
-            gameReady = true;
-        }
-        return game;
     }
 
     // ---- where one can get
@@ -539,31 +527,30 @@ public final class TwinSpan {
         if (!board.isPair(p) || !board.plan.isCell(c)) {
             return NO_SUCH;
         }
-        Game turns = gameOf(p);
-        turns.play(graph, c);
-        return turns.levelNow();
+        game.play(graphOf(p), c);
+        return game.levelNow();
     }
 
     public int best(int p, int c) {
         if (!board.isPair(p) || !board.plan.isCell(c)) {
             return NO_SUCH;
         }
-        Game turns = gameOf(p);
-        turns.play(graph, c);
-        return turns.firstBest(graph);
+        Graph ways = graphOf(p);
+        game.play(ways, c);
+        return game.firstBest(ways);
     }
 
     public long power(int p) {
         if (!board.isPair(p)) {
             return NO_SUCH;
         }
-        Game turns = gameOf(p);
-        long open = graph.cellsOf(0);
+        Graph ways = graphOf(p);
+        long open = ways.cellsOf(0);
         long forced = 0;
         for (int c = 0; c < CELLS; c++) {
             if ((open >>> c & 1) != 0) {
-                turns.play(graph, c);
-                if (turns.levelNow() != NONE) {
+                game.play(ways, c);
+                if (game.levelNow() != NONE) {
                     forced |= 1L << c;
                 }
             }
@@ -846,11 +833,7 @@ public final class TwinSpan {
         }
 
         boolean isCell(int c) {
-            return c >= 0 && c < cellCount;
-        }
-
-        int heightOf(int c) {
-            return isCell(c) ? heights[c] : 0;
+            return c >= 0 && c < cellCount && c < CELLS;
         }
 
         int apart(int a, int b) {
@@ -1078,6 +1061,7 @@ public final class TwinSpan {
         static final int AND = 13;
         static final int NOT = 14;
         static final int STRANGE = 15;
+        static final String SIGNS = ";:+-*()[]=<>";
 
         final Board draft;
         int faultKind;
@@ -1086,6 +1070,12 @@ public final class TwinSpan {
         private byte[] text = new byte[0];
         private int length;
         private int next;
+        /** All TOKENS, END or the first BAD one last. */
+        private final int[] kinds = new int[TAPE + 1];
+        private final int[] places = new int[TAPE + 1];
+        private final int[] values = new int[TAPE + 1];
+        private int tokens;
+        private int at;
         /** The TOKEN that is looked at: END, BAD, WORD, NUMBER or its sign. */
         private int kind;
         private int place;
@@ -1102,9 +1092,10 @@ public final class TwinSpan {
         boolean reads(byte[] bytes, int n) {
             text = bytes;
             length = Math.max(0, Math.min(n, bytes.length));
-            next = 0;
             faultKind = 0;
             faultPlace = NONE;
+            splitText();
+            at = -1;
             look();
             if (!fieldLine()) {
                 return false;
@@ -1119,6 +1110,78 @@ public final class TwinSpan {
 
         // TOKENS
 
+        private void splitText() {
+            next = 0;
+            tokens = 0;
+            int last = WORD;
+            for (int i = 0; i <= TAPE && last != END && last != BAD; i++) {
+                skipBlanks();
+                places[i] = next;
+                last = splitToken(i);
+                kinds[i] = last;
+                tokens = i + 1;
+            }
+        }
+
+        private void skipBlanks() {
+            while (next < length && (signAt(next) == ' ' || signAt(next) == '\n')) {
+                next++;
+            }
+        }
+
+        /** The kind of the TOKEN that begins at 'next', which is behind it then. */
+        private int splitToken(int i) {
+            int sign = signAt(next);
+            if (next >= length) {
+                return END;
+            }
+            if (isLetter(sign)) {
+                values[i] = splitWord();
+                return WORD;
+            }
+            if (isDigit(sign)) {
+                int first = next;
+                values[i] = splitNumber();
+                return next > first + 3 ? BAD : NUMBER;
+            }
+            next++;
+            return sign > 0 && SIGNS.indexOf((char) sign) >= 0 ? sign : BAD;
+        }
+
+        private int splitNumber() {
+            int number = 0;
+            while (next < length && isDigit(signAt(next))) {
+                // longer ones than three digits are no TOKENS: their value is of no use
+                number = (10 * number + signAt(next) - '0') % 1000;
+                next++;
+            }
+            return number;
+        }
+
+        private int splitWord() {
+            int first = next;
+            while (next < length && isLetter(signAt(next))) {
+                next++;
+            }
+            int number = 0;
+            int from = first;
+            boolean same = true;
+            for (int i = 0; i < WORDS.length(); i++) {
+                char sign = WORDS.charAt(i);
+                if (sign != ' ') {
+                    same = same && from < next && signAt(from) == sign;
+                    from++;
+                } else if (same && from == next) {
+                    return number;
+                } else {
+                    number++;
+                    from = first;
+                    same = true;
+                }
+            }
+            return STRANGE;
+        }
+
         private int signAt(int i) {
             return i >= 0 && i < length && i < text.length ? text[i] : 0;
         }
@@ -1131,65 +1194,14 @@ public final class TwinSpan {
             return sign >= '0' && sign <= '9';
         }
 
-        private static boolean isMark(int sign) {
-            return sign > 0 && ";:+-*()[]=<>".indexOf((char) sign) >= 0;
-        }
-
+        /** Goes on to the next TOKEN; behind the last one there is none to go on to. */
         private void look() {
-            while (next < length && (signAt(next) == ' ' || signAt(next) == '\n')) {
-                next++;
+            if (at + 1 < tokens && at + 1 < kinds.length) {
+                at++;
+                kind = kinds[at];
+                place = places[at];
+                value = values[at];
             }
-            place = next;
-            value = 0;
-            int sign = signAt(next);
-            if (next >= length) {
-                kind = END;
-            } else if (isLetter(sign)) {
-                lookWord();
-            } else if (isDigit(sign)) {
-                lookNumber();
-            } else {
-                kind = isMark(sign) ? sign : BAD;
-                next++;
-            }
-        }
-
-        private void lookWord() {
-            while (next < length && isLetter(signAt(next))) {
-                next++;
-            }
-            kind = WORD;
-            value = wordNumber();
-        }
-
-        private void lookNumber() {
-            while (next < length && isDigit(signAt(next))) {
-                if (next < place + 3) {
-                    value = 10 * value + signAt(next) - '0';
-                }
-                next++;
-            }
-            kind = next > place + 3 ? BAD : NUMBER;
-        }
-
-        private int wordNumber() {
-            int number = 0;
-            int at = place;
-            boolean same = true;
-            for (int i = 0; i < WORDS.length(); i++) {
-                char sign = WORDS.charAt(i);
-                if (sign != ' ') {
-                    same = same && at < next && signAt(at) == sign;
-                    at++;
-                } else if (same && at == next) {
-                    return number;
-                } else {
-                    number++;
-                    at = place;
-                    same = true;
-                }
-            }
-            return STRANGE;
         }
 
         private boolean isWord(int word) {
@@ -1229,10 +1241,15 @@ public final class TwinSpan {
         }
 
         private boolean takeCell(long allowed) {
-            if (kind == NUMBER && value < CELLS && (allowed >>> value & 1) == 0) {
+            if (kind != NUMBER) {
+                return refuseToken();
+            }
+            if (value >= CELLS || (allowed >>> value & 1) == 0) {
                 return refuse(FAULT_BOUNDS);
             }
-            return takeNumber(0, CELLS - 1);
+            taken = value;
+            look();
+            return true;
         }
 
         // LINES
@@ -1619,12 +1636,17 @@ public final class TwinSpan {
         }
 
         private long lawTells(int[] law, int twin, int from, int to) {
+            if (!plan.isCell(from) || !plan.isCell(to)) {
+                return 0;
+            }
+            int row = plan.rowOf[to];
+            int column = plan.columnOf[to];
             names[1] = twin;
-            names[3] = plan.heightOf(from);
-            names[4] = plan.heightOf(to);
-            names[5] = plan.apart(from, to);
-            names[6] = plan.isCell(to) ? plan.rowOf[to] : 0;
-            names[7] = plan.isCell(to) ? plan.columnOf[to] : 0;
+            names[3] = plan.heights[from];
+            names[4] = plan.heights[to];
+            names[5] = Math.abs(plan.rowOf[from] - row) + Math.abs(plan.columnOf[from] - column);
+            names[6] = row;
+            names[7] = column;
             int top = 0;
             for (int i = 0; i < law.length; i++) {
                 int item = law[i];
@@ -1823,13 +1845,15 @@ public final class TwinSpan {
         static final int SCALE = 1024;
         static final int FAR = 1000000000;
 
+        boolean isReady;
         private final int[] length = new int[STATES];
         private final int[] weight = new int[STATES * LEADS];
         private final int[] order = new int[STATES];
         private int settled;
         private final int[] open = new int[STATES];
         private int openSize;
-        private final boolean[] good = new boolean[STATES];
+        /** 1: one can still come from this stand to the GOAL by the least length in all. */
+        private final int[] good = new int[STATES];
 
         void explore(Graph ways, Stepper stepper) {
             Arrays.fill(length, FAR);
@@ -1837,6 +1861,7 @@ public final class TwinSpan {
             open[0] = 0;
             openSize = 1;
             settled = 0;
+            isReady = true;
             for (int i = 0; i < STATES && openSize > 0; i++) {
                 int s = takeNearest();
                 order[i] = s;
@@ -1893,7 +1918,7 @@ public final class TwinSpan {
         /** Whether a LEAD goes on along a way of the least length to a good stand. */
         private boolean leadsOn(Graph ways, int s, int lead) {
             int t = ways.nextOf(s, lead);
-            return ways.has(t) && good[t] && length[s] + weight[s * LEADS + lead] == length[t];
+            return ways.has(t) && good[t] == 1 && length[s] + weight[s * LEADS + lead] == length[t];
         }
 
         private int firstOn(Graph ways, int s) {
@@ -1905,16 +1930,14 @@ public final class TwinSpan {
             return NONE;
         }
 
-        /** Good: stands from which one can still come to the GOAL by the least length in all. */
         private void mark(Graph ways, int one, int two, int shortest) {
-            Arrays.fill(good, false);
+            Arrays.fill(good, 0);
             for (int i = settled - 1; i >= 0; i--) {
                 int s = order[i];
-                if (length[s] == shortest) {
-                    good[s] = ways.fits(s, one, two);
-                } else if (length[s] < shortest) {
-                    good[s] = firstOn(ways, s) != NONE;
-                }
+                boolean isGood = length[s] == shortest
+                        ? ways.fits(s, one, two)
+                        : length[s] < shortest && firstOn(ways, s) != NONE;
+                good[s] = isGood ? 1 : 0;
             }
         }
 
@@ -1939,7 +1962,7 @@ public final class TwinSpan {
         private final int[] queue = new int[STATES * MARKS];
         private final int[] parent = new int[STATES * MARKS];
         private final int[] last = new int[STATES * MARKS];
-        /** 1 for what is none, so that each node's depth tells whether it was seen. */
+        /** NONE: not seen yet. */
         private final int[] depth = new int[STATES * MARKS];
         private int end;
 
@@ -1999,6 +2022,7 @@ public final class TwinSpan {
 
     /** FORCING, over stands and whose turn it is (a node: twice the stand, and the TWIN). */
     private static final class Game {
+        boolean isReady;
         private final int[] firstLink = new int[2 * STATES];
         private final int[] nextLink = new int[2 * STATES * WAYS];
         private final int[] linkFrom = new int[2 * STATES * WAYS];
@@ -2009,7 +2033,8 @@ public final class TwinSpan {
         private final int[] queue = new int[2 * STATES];
 
         /** Each node gets the list of the nodes from which one comes to it. */
-        void linkAll(Graph ways) {
+        private void linkAll(Graph ways) {
+            isReady = true;
             Arrays.fill(firstLink, NONE);
             Arrays.fill(outs, 0);
             links = 0;
@@ -2041,6 +2066,9 @@ public final class TwinSpan {
 
         /** Gives each node its level: within how many LEADS TWIN 0 FORCES the CELL from there. */
         void play(Graph ways, int c) {
+            if (!isReady) {
+                linkAll(ways);
+            }
             Arrays.fill(level, NONE);
             System.arraycopy(outs, 0, left, 0, 2 * STATES);
             int size = 0;
@@ -2137,7 +2165,10 @@ public final class TwinSpan {
         int greatestOf(Graph ways, int twin) {
             Arrays.fill(sums, 0);
             for (int s = 0; s < ways.size && s < STATES; s++) {
-                sums[ways.cellOf(s, twin)] += at[now][s];
+                int c = ways.cellOf(s, twin);
+                if (c >= 0 && c < CELLS) {
+                    sums[c] += at[now][s];
+                }
             }
             int greatest = 0;
             for (int c = 1; c < CELLS; c++) {
