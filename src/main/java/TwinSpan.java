@@ -23,6 +23,8 @@ public final class TwinSpan {
     private static final int WHY_DRAWN = 4;
 
     private static final int CELLS = 36;
+    /** Neither a CELL nor NONE: no stand fits to it. */
+    private static final int NOWHERE = -2;
     private static final int PAIRS = 3;
     private static final int SIDE = 6;
     private static final int MAX_SPAN = 10;
@@ -412,7 +414,7 @@ public final class TwinSpan {
                 continue;
             }
             stepper.free = free & ~(1L << c);
-            walled.build(stepper, here);
+            walled.build(stepper, here, one, two);
             if (walled.find(one, two) == NONE) {
                 need |= 1L << c;
             }
@@ -454,7 +456,7 @@ public final class TwinSpan {
     private Graph graphOf(int p) {
         if (graphPair != p) {
             stepper.aim(board, p);
-            graph.build(stepper, board.standOf(p));
+            graph.build(stepper, board.standOf(p), NOWHERE, NOWHERE);
             changed();
             graphPair = p;
         }
@@ -1723,11 +1725,12 @@ public final class TwinSpan {
         private final int[] next = new int[STATES * LEADS];
         private final int[] numberOf = new int[CELLS * CELLS];
 
-        void build(Stepper stepper, int here) {
+        /** Goes on till it comes to the GOAL; to NOWHERE: till there are no more stands. */
+        void build(Stepper stepper, int here, int one, int two) {
             Arrays.fill(numberOf, NONE);
             size = 0;
             add(here, 0, NONE, NONE);
-            for (int s = 0; s < size && s < STATES; s++) {
+            for (int s = 0; s < size && s < STATES && !fits(s, one, two); s++) {
                 for (int lead = 0; lead < LEADS; lead++) {
                     int there = stepper.step(stand[s], lead / WAYS, lead % WAYS);
                     next[s * LEADS + lead] = there < 0 ? NONE : add(there, depth[s] + 1, s, lead);
