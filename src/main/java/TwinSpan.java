@@ -55,7 +55,8 @@ public final class TwinSpan {
     private int faultKind;
     private int faultPlace = NONE;
     private final Board board;
-    private final Board before;
+    /** As it was ahead of a deed, to be kept if it could be; or what judged deeds would make of it. */
+    private final Board spare;
     private final Reader reader;
     private final Stepper stepper;
     private final Graph graph = new Graph();
@@ -73,7 +74,7 @@ public final class TwinSpan {
     public TwinSpan() {
         Plan empty = new Plan(1, 1);
         board = new Board(empty);
-        before = new Board(empty);
+        spare = new Board(empty);
         reader = new Reader(empty);
         stepper = new Stepper(empty);
         history = new History(empty);
@@ -116,7 +117,7 @@ public final class TwinSpan {
         }
         board.copyFrom(reader.draft);
         history.forget();
-        changed();
+        forgetWays();
         return board.plan.lines;
     }
 
@@ -198,24 +199,24 @@ public final class TwinSpan {
             return REFUSED_DEED + there;
         }
         int cost = stepper.costOf(board.standOf(p), there);
-        before.copyFrom(board);
+        spare.copyFrom(board);
         board.go(p, there);
-        keepBefore();
+        keepSpare();
         return cost;
     }
 
     public int wall(int c) {
-        before.copyFrom(board);
+        spare.copyFrom(board);
         return deedAnswer(board.turnWall(c));
     }
 
     public int put(int p, int one, int two) {
-        before.copyFrom(board);
+        spare.copyFrom(board);
         return deedAnswer(board.place(p, one, two));
     }
 
     public int mood(int p, int n) {
-        before.copyFrom(board);
+        spare.copyFrom(board);
         return deedAnswer(board.feel(p, n));
     }
 
@@ -224,7 +225,7 @@ public final class TwinSpan {
             return BAD_NUMBER;
         }
         history.goBack(n, board);
-        changed();
+        forgetWays();
         return history.size;
     }
 
@@ -236,11 +237,10 @@ public final class TwinSpan {
         if (deeds.isMissing()) {
             return TRAY_MISSING;
         }
-        Board there = before;
-        there.copyFrom(board);
+        spare.copyFrom(board);
         int steps = 0;
         for (int i = 0; i < deeds.size; i++) {
-            int gone = there.act(stepper, deeds.at(i));
+            int gone = spare.act(stepper, deeds.at(i));
             if (gone < 0) {
                 return judgement(what, i, -gone, steps);
             }
@@ -249,7 +249,7 @@ public final class TwinSpan {
         return judgement(what, NONE, 0, steps);
     }
 
-    /** Behind judge(), which has left in 'before' what would be then. */
+    /** Behind judge(), which has left on the spare board what would be then. */
     private int judgement(int what, int place, int reason, int steps) {
         if (what == 0) {
             return place;
@@ -257,7 +257,7 @@ public final class TwinSpan {
         if (what == 1) {
             return reason;
         }
-        return what == 2 ? before.allDone() : steps;
+        return what == 2 ? spare.allDone() : steps;
     }
 
     public int perform(int tray) {
@@ -268,7 +268,7 @@ public final class TwinSpan {
         if (deeds.isMissing()) {
             return TRAY_MISSING;
         }
-        before.copyFrom(board);
+        spare.copyFrom(board);
         int did = 0;
         for (int i = 0; i < deeds.size; i++) {
             if (board.act(stepper, deeds.at(i)) < 0) {
@@ -277,7 +277,7 @@ public final class TwinSpan {
             did++;
         }
         if (did > 0) {
-            keepBefore();
+            keepSpare();
         }
         return did;
     }
@@ -286,7 +286,7 @@ public final class TwinSpan {
         if (times < 1 || times > LONGEST_DAY) {
             return BAD_NUMBER;
         }
-        before.copyFrom(board);
+        spare.copyFrom(board);
         int x = seed;
         int did = 0;
         for (int i = 0; i < times; i++) {
@@ -308,7 +308,7 @@ public final class TwinSpan {
             }
         }
         if (did > 0) {
-            keepBefore();
+            keepSpare();
         }
         return did;
     }
@@ -321,16 +321,16 @@ public final class TwinSpan {
         if (answer < 0) {
             return REFUSED_DEED + answer;
         }
-        keepBefore();
+        keepSpare();
         return answer;
     }
 
-    private void keepBefore() {
-        history.keep(before);
-        changed();
+    private void keepSpare() {
+        history.keep(spare);
+        forgetWays();
     }
 
-    private void changed() {
+    private void forgetWays() {
         graphPair = NONE;
         cheap.isReady = false;
         game.isReady = false;
@@ -457,7 +457,7 @@ public final class TwinSpan {
         if (graphPair != p) {
             stepper.aim(board, p);
             graph.build(stepper, board.standOf(p), NOWHERE, NOWHERE);
-            changed();
+            forgetWays();
             graphPair = p;
         }
         return graph;
@@ -773,7 +773,7 @@ public final class TwinSpan {
         }
         board.copyFrom(made);
         history.forget();
-        changed();
+        forgetWays();
         return 0;
     }
 
