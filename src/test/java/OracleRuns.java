@@ -16,7 +16,7 @@ public final class OracleRuns {
     static long calls = 0;
 
     public static void main(String[] args) {
-        int runs = args.length > 1 ? Integer.parseInt(args[1]) : 700;
+        int runs = args.length > 1 ? Integer.parseInt(args[1]) : 500;
         long seed = args.length > 2 ? Long.parseLong(args[2]) : 1;
         for (int run = 0; run < runs && wrong < 5; run++) {
             new Run(seed * 1000003 + run).go();
@@ -213,7 +213,17 @@ public final class OracleRuns {
             return random.nextInt(6) == 0 ? "\n" : random.nextInt(8) == 0 ? "  " : " ";
         }
 
+        /** No walls, hardly a law: as many stands as there can be. */
+        String openField() {
+            String law = random.nextBoolean() ? "" : random.nextBoolean() ? "may:hop<4;" : "costs:twin+column*hop;";
+            return "field 6 6;pair " + random.nextInt(36) + " " + random.nextInt(36) + " errand " + random.nextInt(36)
+                + " " + random.nextInt(36) + ";" + law;
+        }
+
         String randomField() {
+            if (random.nextInt(6) == 0) {
+                return openField();
+            }
             int rows = 1 + random.nextInt(6);
             int columns = 1 + random.nextInt(6);
             if (random.nextInt(4) == 0) {

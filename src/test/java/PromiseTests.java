@@ -97,6 +97,12 @@ public final class PromiseTests {
         due(2, "a byte above 127", x.feed(0x6669656c, 0x64203220, 0x333b20e9, 0x20202020, 0x20202020), 20);
         due(2, "is no token", x.field(20), -31);
         due(2, "at its place", x.fault(1), 11);
+        StringBuilder signs = new StringBuilder();
+        while (signs.length() < 900) {
+            signs.append(';');
+        }
+        due(2, "900 tokens", tell(x, signs.toString()), -32);
+        due(2, "the first of them", x.fault(1), 0);
         String longest = "field 1 2;";
         while (longest.length() < 900) {
             longest += longest.length() == 890 ? "pair 0 1 ;" : "row 0 1 2;";
@@ -210,6 +216,26 @@ public final class PromiseTests {
         fault("field 1 2;costs : ( 1;", 2, 21);
         fault("field 1 2;costs : 1 2;", 2, 20);
         fault("field 1 2;costs : ;", 2, 18);
+        fault("field 1 2;costs : 1 + ;", 2, 22);
+        fault("field 1 2;costs : 1 - ;", 2, 22);
+        fault("field 1 2;costs : 1 * ;", 2, 22);
+        fault("field 1 2;costs : 1 * 2 * ;", 2, 26);
+        fault("field 1 2;costs : ( ;", 2, 20);
+        fault("field 1 2;costs : ( 1 + 2 ;", 2, 26);
+        fault("field 1 2;may : 1 < ;", 2, 20);
+        fault("field 1 2;may : 1 + < 1;", 2, 20);
+        fault("field 1 2;may : 1 < 1 and ;", 2, 26);
+        fault("field 1 2;may : 1 < 1 or ;", 2, 25);
+        fault("field 1 2;may : 1 < 1 and 1 < 1 or ;", 2, 35);
+        fault("field 1 2;may : not ;", 2, 20);
+        fault("field 1 2;may : [ 1 = 1 ;", 2, 24);
+        fault("field 1 2;may : [ ] ;", 2, 18);
+        fault("field 1 1;zz 1;", 2, 10);
+        fault("field 1 1;a;", 2, 10);
+        fault("field 1 1;{", 1, 10);
+        fault("field 1 1;`", 1, 10);
+        fault("field 1 1;/", 1, 10);
+        fault("field 1 1;,", 1, 10);
         fault("field 0 1;", 3, 6);
         fault("field 7 1;", 3, 6);
         fault("field 1 0;", 3, 8);
@@ -513,6 +539,12 @@ public final class PromiseTests {
             due(14, "place of deed " + deeds[i], x.judge(2, 0), deeds[i] == 1000 ? -1 : 1);
             due(14, "why not deed " + deeds[i], x.judge(2, 1), deeds[i] == 1000 ? 0 : reasons[i]);
         }
+        x.mood(0, 6);
+        due(15, "mood 0", first(x, 2000), 1);
+        due(15, "mood 0", x.pair(0, 3), 0);
+        due(15, "mood 9", first(x, 2009), 1);
+        due(15, "mood 9", x.pair(0, 3), 9);
+        due(15, "cell 0, somebody is there", first(x, 1000), 0);
         TwinSpan y = with("field 3 3;row 0 0 9 0;row 1 0 0 9;pair 0 2;");
         tray(y, 0, 0, 2);
         due(14, "steps of both", y.judge(0, 3), 4);
@@ -628,6 +660,14 @@ public final class PromiseTests {
         TwinSpan hop = with(LANE);
         due(19, "without a law", hop.cheapest(0, 4, 3), 8);
         due(19, "any", hop.cheapest(0, -1, 4), 6);
+        // whatever else was asked in between, of another pair
+        TwinSpan two = with("field 2 3;pair 0 0 mood 1;pair 3 3 mood 4;costs:mood+pair*10;");
+        two.soonest(0, 2, 2);
+        two.why(1, 0, 1);
+        due(19, "of this pair", two.cheapest(0, 2, 2), 4);
+        two.soonest(1, 5, 5);
+        two.by(0, 0, 1, 3);
+        due(19, "of the other pair", two.cheapest(1, 5, 5), 56);
         // Leading costs TWIN 0 much, being drawn nothing: TWIN 1 leads.
         TwinSpan one = with("field 1 5;pair 0 1;costs:5*[1=1];".replace("[1=1]", "(1-twin)*(2-hop)"));
         due(20, "who leads is cheaper", one.cheapWay(0, -1, 4, 0), 11);
@@ -829,6 +869,9 @@ public final class PromiseTests {
         due(36, "missing", x.moods(2, 0), -6);
         due(35, "missing", x.attempt(2, 0), -6);
         due(34, "missing", x.many(2, 0), -6);
+        TwinSpan zero = with("field 1 5;row 0 5 0 0 0 0;pair 1 2;may:twin=0 or from=0;");
+        tray(zero, 0, 0, 0);
+        due(35, "cell 0 too", zero.attempt(0, 0), 1);
         TwinSpan y = with(SQUARE);
         tray(y, 0, 0, 0);
         due(33, "free ones just the span away", y.tried(0, 0), cells(2, 4, 6));
