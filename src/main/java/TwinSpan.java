@@ -992,7 +992,8 @@ public final class TwinSpan {
         }
 
         int place(int p, int one, int two) {
-            if (!isPair(p)) {
+            // A CELL that is none such isn't FREE either: put() tells the first of both.
+            if (!isPair(p) || !plan.isCell(one) || !plan.isCell(two)) {
                 return -WHY_NO_SUCH;
             }
             if (!isFreeFor(p, one) || !isFreeFor(p, two)) {

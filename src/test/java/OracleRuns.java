@@ -1179,7 +1179,7 @@ final class Oracle {
     }
 
     long put(int p, int one, int two) {
-        if (!isPair(p)) {
+        if (!isPair(p) || !now.isCell(one) || !now.isCell(two)) {
             return -11;
         }
         if (!now.free(p, one) || !now.free(p, two)) {
