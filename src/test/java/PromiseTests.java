@@ -1,67 +1,5 @@
 /** For each promise calls whose answers were told by hand from the document. */
-public final class PromiseTests {
-    static final String LANE = "field 1 5;pair 0 1;";
-    static final String SQUARE = "field 3 3;pair 0 2;";
-    static int wrong = 0;
-    static int asked = 0;
-
-    static void due(int promise, String what, long got, long want) {
-        asked++;
-        if (got != want) {
-            wrong++;
-            System.out.println("promise " + promise + ": " + what + " answered " + got + ", due is " + want);
-        }
-    }
-
-    static void feedText(TwinSpan x, String text) {
-        StringBuilder s = new StringBuilder(text);
-        while (s.length() % 20 != 0) {
-            s.append(' ');
-        }
-        for (int i = 0; i < s.length(); i += 20) {
-            int[] w = new int[5];
-            for (int k = 0; k < 20; k++) {
-                w[k / 4] = w[k / 4] << 8 | s.charAt(i + k) & 255;
-            }
-            x.feed(w[0], w[1], w[2], w[3], w[4]);
-        }
-    }
-
-    static int tell(TwinSpan x, String text) {
-        feedText(x, text);
-        return x.field(text.length());
-    }
-
-    static TwinSpan with(String text) {
-        TwinSpan x = new TwinSpan();
-        int lines = tell(x, text);
-        if (lines < 1) {
-            wrong++;
-            System.out.println("a text that was no field: " + text + " (" + lines + " at " + x.fault(1) + ")");
-        }
-        return x;
-    }
-
-    static void tray(TwinSpan x, int tray, int sort, long... values) {
-        x.numbers(tray, sort, values.length);
-        for (int i = 0; i < values.length; i++) {
-            x.write(tray, i, values[i]);
-        }
-    }
-
-    static long cells(int... all) {
-        long bits = 0;
-        for (int c : all) {
-            bits |= 1L << c;
-        }
-        return bits;
-    }
-
-    static void stand(int promise, String what, TwinSpan x, int p, int one, int two) {
-        due(promise, what + ": TWIN 0", x.pair(p, 0), one);
-        due(promise, what + ": TWIN 1", x.pair(p, 1), two);
-    }
-
+public final class PromiseTests extends Asking {
     static void newObject() {
         TwinSpan x = new TwinSpan();
         long[] counts = {1, 1, 0, 0, 0, 0, 0, 0, 0};
@@ -1078,9 +1016,6 @@ public final class PromiseTests {
         listing();
         imaging();
         counting();
-        System.out.println(asked + " answers asked, " + wrong + " wrong");
-        if (wrong != 0) {
-            System.exit(1);
-        }
+        end();
     }
 }
