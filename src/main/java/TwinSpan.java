@@ -2089,7 +2089,8 @@ public final class TwinSpan {
                     int from = linkFrom[at];
                     left[from]--;
                     // TWIN 1 is forced only once all its LEADS are.
-                    if (level[from] == NONE && (from % 2 == 0 || left[from] == 0)) {
+                    boolean isForced = level[from] == NONE && (from % 2 == 0 || left[from] == 0);
+                    if (isForced && size < queue.length) {
                         level[from] = level[queue[i]] + 1;
                         queue[size] = from;
                         size++;

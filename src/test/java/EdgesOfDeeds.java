@@ -142,28 +142,30 @@ public final class EdgesOfDeeds extends Asking {
 
     /** "it goes to the one that is fewest STEPS from its own place, the law may holding for it, of like ones the first" */
     static void drawn() {
-        // TWIN 0 goes from the middle to the left, TWIN 1 is two steps above it: seven cells fit
-        String field = "field 5 5;pair 12 2;";
+        drawnBy(0, "field 5 5;pair 12 2;");
+        drawnBy(1, "field 5 5;pair 2 12;");
+    }
+
+    /** A TWIN goes from the middle to the left, the other one is two steps above it: seven cells fit. */
+    static void drawnBy(int twin, String field) {
         int[] order = {1, 7, 5, 13, 17, 15, 21};
         String law = "";
-        TwinSpan open = with(field);
-        due(8, "the nearest, of like ones the first", open.by(0, 0, 3, 1), 1);
-        due(8, "its hop", open.by(0, 0, 3, 2), 1);
         for (int i = 0; i < order.length; i++) {
             TwinSpan walled = with(field);
             for (int k = 0; k < i; k++) {
                 walled.wall(order[k]);
             }
-            int hop = Math.abs(order[i] / 5) + Math.abs(order[i] % 5 - 2);
-            due(8, "behind " + i + " walls", walled.by(0, 0, 3, 1), order[i]);
-            due(8, "its hop", walled.by(0, 0, 3, 2), hop);
-            due(8, "both go", walled.by(0, 0, 3, 3), 1 + hop);
+            int hop = order[i] / 5 + Math.abs(order[i] % 5 - 2);
             TwinSpan lawful = with(field + "may:1=1" + law + ";");
-            due(8, "by the law, without " + i, lawful.by(0, 0, 3, 1), order[i]);
-            law += " and not [twin=1 and row=" + order[i] / 5 + " and column=" + order[i] % 5 + "]";
+            for (TwinSpan x : new TwinSpan[] {walled, lawful}) {
+                due(8, "the leader", x.by(0, twin, 3, twin), 11);
+                due(8, "without " + i, x.by(0, twin, 3, 1 - twin), order[i]);
+                due(8, "its hop", x.by(0, twin, 3, 2), hop);
+                due(8, "both go", x.by(0, twin, 3, 3), 1 + hop);
+            }
+            law += " and not [twin=" + (1 - twin) + " and row=" + order[i] / 5 + " and column=" + order[i] % 5 + "]";
         }
-        TwinSpan none = with(field + "may:1=1" + law + ";");
-        due(7, "none is left", none.why(0, 0, 3), 4);
+        due(7, "none is left", with(field + "may:1=1" + law + ";").why(0, twin, 3), 4);
     }
 
     // ---- Terms, part 2: laws
@@ -264,6 +266,29 @@ public final class EdgesOfDeeds extends Asking {
         due(10, "all but one", y.wall(0), -12);
         due(13, "ten of them", y.undo(10), 0);
         due(44, "walls", y.count(3), 25);
+    }
+
+    /** "no TWIN of another PAIR is there": each twin of three pairs is in the way of the others. */
+    static void everybody() {
+        TwinSpan x = with("field 2 6;pair 0 1;pair 2 3;pair 4 5;");
+        for (int c = 0; c < 6; c++) {
+            due(5, "one twin in " + c, x.cell(c, 1), 1);
+            due(5, "whose", x.cell(c, 2), c / 2);
+            due(10, "somebody is in " + c, x.wall(c), -12);
+            due(5, "nobody below", x.cell(6 + c, 1), 0);
+            due(5, "nobody below", x.cell(6 + c, 2), -1);
+            for (int p = 0; p < 3; p++) {
+                int due = c / 2 == p ? 0 : -12;
+                due(11, "pair " + p + " to " + c, x.put(p, c, c), due);
+                due(13, "back", due == 0 ? x.undo(1) : 0, 0);
+                due(28, "free for pair " + p, x.round(p, 6 + c) >>> c & 1, c / 2 == p ? 1 : 0);
+            }
+        }
+        due(7, "in the way", x.why(0, 1, 1), 2);
+        due(7, "in the way", x.why(1, 0, 3), 2);
+        due(7, "in the way", x.why(1, 1, 1), 2);
+        due(7, "in the way", x.why(2, 0, 3), 2);
+        due(44, "spans", x.count(4), 3);
     }
 
     /** "To PUT: the SPAN then. -11, -12."; "both TWINS to FREE CELLS (one and the same may be)" */
@@ -614,6 +639,7 @@ public final class EdgesOfDeeds extends Asking {
         costs();
         errandsDone();
         walls();
+        everybody();
         puts();
         moods();
         undoing();

@@ -49,6 +49,64 @@ public final class EdgesOfTexts extends Asking {
         unchanged(2, y -> feedText(y, finalTape), y -> due(2, "one more", y.feed(1, 2, 3, 4, 5), -5));
     }
 
+    /** As many tokens as 900 bytes can have, and laws as long as can be. */
+    static void fullTexts() {
+        TwinSpan x = new TwinSpan();
+        due(3, "900 tokens, a number last", tell(x, "+1".repeat(450)), -32);
+        due(4, "the first of them", x.fault(1), 0);
+        due(3, "900 tokens, a sign last", tell(x, "1+".repeat(450)), -32);
+        due(4, "the first of them", x.fault(1), 0);
+        String sum = "field1 2;pair 0 0;costs:" + "1+".repeat(437) + "1";
+        due(3, "900 bytes", tell(x, sum + ";"), 3);
+        due(8, "438 of them, 99 at most each", x.by(0, 0, 1, 3), 198);
+        String difference = "field1 2;pair 0 0;costs:441" + "-1".repeat(436) + ";";
+        due(3, "900 bytes", tell(x, difference), 3);
+        due(8, "5 each", x.by(0, 0, 1, 3), 10);
+        String truth = "field1 2;pair 0 0;may:" + "1=2or ".repeat(145) + "1=1;";
+        due(3, "896 bytes", tell(x, truth), 3);
+        due(7, "the last one holds", x.why(0, 0, 1), 0);
+        String none = "field1 2;pair 0 0;may:" + "1=1and ".repeat(124) + "1=2;";
+        due(3, "894 bytes", tell(x, none), 3);
+        due(7, "the last one doesn't", x.why(0, 0, 1), 3);
+        String lines = "field1 1;" + "costs:1;".repeat(111);
+        due(3, "897 bytes", tell(x, lines), 112);
+        due(44, "lines", x.count(8), 112);
+    }
+
+    /** A later text tells all anew: nothing is left of an earlier one, whatever its size. */
+    static void laterTexts() {
+        TwinSpan x = with("field 1 5;row 0 9 8 7 6 5;pair 1 2 errand 1 2 mood 7;pair 3 3 mood 8;may:1=2;costs:9;");
+        x.wall(0);
+        due(3, "a later one", tell(x, "field 1 5;pair 1 2;pair 3 4;"), 3);
+        for (int p = 0; p < 2; p++) {
+            due(6, "mood", x.pair(p, 3), 0);
+            due(6, "errand", x.pair(p, 4), -1);
+            due(6, "errand", x.pair(p, 5), -1);
+            due(6, "done", x.pair(p, 6), 0);
+        }
+        for (int c = 0; c < 5; c++) {
+            due(5, "height " + c, x.cell(c, 0), 0);
+        }
+        due(7, "no law", x.why(0, 0, 3), 0);
+        due(8, "no costs", x.by(0, 0, 3, 3), 2);
+        due(44, "done", x.count(5), 0);
+        TwinSpan y = new TwinSpan();
+        int[][] sizes = {{2, 3}, {3, 2}, {3, 3}, {1, 3}, {6, 6}, {6, 1}, {1, 6}, {5, 6}, {6, 5}, {2, 2}, {4, 2}, {1, 1}};
+        for (int[] size : sizes) {
+            int last = size[0] * size[1] - 1;
+            String text = "field " + size[0] + " " + size[1] + ";pair 0 " + last / 2 + ";";
+            TwinSpan fresh = with(text);
+            due(3, text, tell(y, text), 2);
+            due(25, "reach of " + text, y.reach(0, 0), fresh.reach(0, 0));
+            due(26, "stands of " + text, y.stands(0), fresh.stands(0));
+            due(27, "farthest of " + text, y.farthest(0, 1), fresh.farthest(0, 1));
+            due(28, "round of " + text, y.round(0, last), fresh.round(0, last));
+            due(29, "spans of " + text, y.spans(0, 1), fresh.spans(0, 1));
+            due(30, "forces of " + text, y.forces(0, last), fresh.forces(0, last));
+            due(19, "cheapest of " + text, y.cheapest(0, last, -1), fresh.cheapest(0, last, -1));
+        }
+    }
+
     /** "Twenty bytes ..., the highest of each int first" */
     static void orderOfBytes() {
         TwinSpan x = new TwinSpan();
@@ -182,6 +240,11 @@ public final class EdgesOfTexts extends Asking {
         due(44, "walls", x.count(3), 1);
         due(10, "told a wall, last", x.wall(2), 0);
         due(5, "0, if it was told a wall", x.cell(2, 0), 0);
+        TwinSpan high = reads("field 6 6;row 5 9 9 9 9 9 9;row 0 0 9 9 9 0 0;row 5 0 0 0 0 0 9;", 4);
+        due(44, "walls in the last row, struck", high.count(3), 4);
+        due(5, "struck", high.cell(30, 0), 0);
+        due(5, "still told", high.cell(3, 0), 9);
+        due(5, "told again", high.cell(35, 0), 9);
         TwinSpan all = reads("field 1 2;row 0 9 9;", 2);
         due(44, "nothing but walls", all.count(3), 2);
     }
@@ -542,6 +605,8 @@ public final class EdgesOfTexts extends Asking {
     public static void main(String[] args) {
         withoutText();
         fullTape();
+        fullTexts();
+        laterTexts();
         orderOfBytes();
         partsOfTheTape();
         undoingStays();

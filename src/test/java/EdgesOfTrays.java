@@ -127,6 +127,9 @@ public final class EdgesOfTrays extends Asking {
         tray(down, 0, 0, 0);
         due(33, "up it couldn't", down.tried(0, 0), cells(1, 3, 5, 7));
         due(35, "two could go down, two couldn't", down.attempt(0, 0), 2);
+        TwinSpan first = with("field 1 5;row 0 5 0 0 0 0;pair 1 2;may:twin=0 or from=5;");
+        tray(first, 0, 0, 0);
+        due(35, "by the first cell alone it could", first.attempt(0, 0), 1);
         TwinSpan later = with(field + "may:[twin=0 and row=1 and column=0] or [twin=1 and from=3];");
         tray(later, 0, 0, 0, 20);
         due(35, "but one could", later.attempt(0, 0), 3);
@@ -342,14 +345,14 @@ public final class EdgesOfTrays extends Asking {
             due(41, "there is none", y.lists(3, 0, 4, 4), -5);
             due(41, "there is none", y.lists(3, 0, 3, 2), -5);
             for (int i = 0; i < n; i++) {
-                y.write(3, i, 9);
+                y.write(3, i, 3);
             }
             due(41, "none to be done", y.lists(3, 0, 0, -1), 0);
             due(41, "as they were", y.judge(3, 0), n > 0 ? 0 : -1);
             due(41, n + " places", y.lists(3, 0, 3, -1), Math.min(n, 3));
-            due(41, "behind them as it was", y.judge(3, 0), n > 3 ? 3 : -1);
-            due(41, "done", y.perform(3), Math.min(n, 3));
-            due(41, "there", y.pair(0, 0), Math.min(n, 3));
+            due(41, "behind them as it was", y.judge(3, 0), -1);
+            due(41, "done", y.perform(3), n);
+            due(41, "there, and back again", y.pair(0, 0), n <= 3 ? n : 6 - n);
         }
         TwinSpan third = with("field 3 2;pair 0 0;pair 2 2;pair 4 4;");
         int[] listed = {0, 1, 1, 1};
