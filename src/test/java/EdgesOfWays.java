@@ -445,15 +445,24 @@ public final class EdgesOfWays extends Asking {
             "costs:height*height*height;", "may:not height=8;costs:row+column*2;"};
         for (String law : laws) {
             for (int start : new int[] {0, 1, 5 * 36 + 8, 36 + 10}) {
-                List<Integer> seen = new ArrayList<>();
-                List<int[]> next = new ArrayList<>();
-                explore(field, law, start, seen, next);
-                int[][] price = prices(field, law, seen, next);
-                TwinSpan x = with(field + "pair " + start / 36 + " " + start % 36 + ";" + law);
-                for (int i = 0; i < seen.size(); i += 1 + seen.size() / 25) {
-                    cheapTo(x, law, seen.get(i), i, next, price);
-                }
+                dearField(field, law, start);
             }
+        }
+        String wide = "field 6 6;row 0 0 8 1 0 3 1;row 1 2 0 4 7 0 6;row 2 1 1 0 8 0 5;row 3 0 5 0 2 0 0;row 4 7 1 8 0 3 0;row 5 0 0 6 1 8 2;";
+        for (int two : new int[] {2, 8, 10, 16, 17}) {
+            dearField(wide, "costs:height*height+twin;", two);
+            dearField(wide, "costs:(8-height)*hop;", 7 * 36 + two + 7);
+        }
+    }
+
+    static void dearField(String field, String law, int start) {
+        List<Integer> seen = new ArrayList<>();
+        List<int[]> next = new ArrayList<>();
+        explore(field, law, start, seen, next);
+        int[][] price = prices(field, law, seen, next);
+        TwinSpan x = with(field + "pair " + start / 36 + " " + start % 36 + ";" + law);
+        for (int i = 0; i < seen.size(); i += 1 + seen.size() / 25) {
+            cheapTo(x, law, seen.get(i), i, next, price);
         }
     }
 
