@@ -114,6 +114,11 @@ public final class OracleRuns {
             return random.nextInt(25) == 0 ? any(-1, 4, 9) : random.nextInt(4);
         }
 
+        /** Of a LEAD in a way. */
+        int randomPlace() {
+            return random.nextInt(3) == 0 ? random.nextInt(40) : random.nextInt(8) - 1;
+        }
+
         int randomTray() {
             return random.nextInt(25) == 0 ? any(-1, 4, 9) : random.nextInt(4);
         }
@@ -146,10 +151,10 @@ public final class OracleRuns {
                 case PERFORM: return new long[] {k, randomTray()};
                 case DAY: return new long[] {k, random.nextInt(), random.nextInt(15) == 0 ? any(0, -1, 41, 40) : 1 + random.nextInt(40)};
                 case SOONEST: case CHEAPEST: case NEEDED: return new long[] {k, p, goalCell(), goalCell()};
-                case WAY: case CHEAPWAY: return new long[] {k, p, goalCell(), goalCell(), random.nextInt(8) - 1};
+                case WAY: case CHEAPWAY: return new long[] {k, p, goalCell(), goalCell(), randomPlace()};
                 case ROWS: return new long[] {k, p, goalCell(), goalCell(), random.nextInt(19) - 1};
                 case ERRANDS: case STANDS: case POWER: return new long[] {k, p};
-                case ERRANDWAY: return new long[] {k, p, random.nextInt(9) - 1};
+                case ERRANDWAY: return new long[] {k, p, randomPlace()};
                 case REACH: case FARTHEST: return new long[] {k, p, randomTwin()};
                 case ROUND: case FORCES: case BEST: return new long[] {k, p, randomCell()};
                 case SPANS: return new long[] {k, p, random.nextInt(14) - 1};
@@ -215,14 +220,50 @@ public final class OracleRuns {
 
         /** No walls, hardly a law: as many stands as there can be. */
         String openField() {
-            String law = random.nextBoolean() ? "" : random.nextBoolean() ? "may:hop<4;" : "costs:twin+column*hop;";
+            String law = random.nextBoolean() ? idleCosts() : random.nextBoolean() ? "may:hop<4;" : "costs:twin+column*hop;";
             return "field 6 6;pair " + random.nextInt(36) + " " + random.nextInt(36) + " errand " + random.nextInt(36)
                 + " " + random.nextInt(36) + ";" + law;
+        }
+
+        /** Corridors to and fro, with a gap here and there: long ways, many cells that are needed. */
+        String maze() {
+            StringBuilder s = new StringBuilder("field 6 6;");
+            for (int r = 1; r < 6; r += 2) {
+                int gap = r % 4 == 1 ? 5 : 0;
+                s.append("row ").append(r);
+                for (int c = 0; c < 6; c++) {
+                    s.append(c == gap || random.nextInt(12) == 0 ? " 1" : " 9");
+                }
+                s.append(";");
+            }
+            int one = any(0, 1, 2, 5, 17, 29);
+            int two = random.nextInt(3) == 0 ? one : any(0, 1, 2, 5, 17, 29);
+            s.append("pair ").append(one).append(" ").append(two).append(" errand ");
+            s.append(any(24, 26, 29, 12)).append(" ").append(any(0, 24, 25, 30, 5)).append(";");
+            if (random.nextInt(3) == 0) {
+                s.append("may:").append(mildLaw()).append(";");
+            }
+            return s.append(idleCosts()).toString();
+        }
+
+        /** Steps that cost nothing, so that many ways are equally dear. */
+        String idleCosts() {
+            switch (random.nextInt(6)) {
+                case 0: return "costs:0;";
+                case 1: return "costs:twin;";
+                case 2: return "costs:hop-1;";
+                case 3: return "costs:height*2-row;";
+                case 4: return "costs:(column-2)*(column-2)*9;";
+                default: return "";
+            }
         }
 
         String randomField() {
             if (random.nextInt(6) == 0) {
                 return openField();
+            }
+            if (random.nextInt(7) == 0) {
+                return maze();
             }
             int rows = 1 + random.nextInt(6);
             int columns = 1 + random.nextInt(6);
